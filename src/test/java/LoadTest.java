@@ -56,6 +56,10 @@ public final class LoadTest {
         for (int number = 4; number <= 7; number++) {
             CHECK.due("number " + number + " is 0", FontFile.faultOf(file.withNumber(number, 0)), 3);
         }
+        FontFile least = new FontFile(65, 66);
+        least.widths.remove(2);
+        least.widths.remove(1);
+        fault("one word of each measure", least, 0);
         CHECK.due("ne is 257", FontFile.faultOf(file.withNumber(10, 257)), 3);
         CHECK.due("ne is 256, of another length", FontFile.faultOf(file.withNumber(10, 256)), 4);
         while (file.recipes.size() < 256) {

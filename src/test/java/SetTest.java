@@ -26,6 +26,8 @@ public final class SetTest {
         edges();
         edgeLigatures();
         tooMany();
+        askingOften();
+        growingMuch();
         mostItems();
         itemsAndTotal();
         CHECK.end("SetTest");
@@ -165,6 +167,9 @@ public final class SetTest {
         letters().loadInto(x, 0);
         CHECK.due("set() when it is there", x.set(), 2);
         CHECK.due("item(1)", x.item(1), C);
+        FontMetrics first = letters().gone(C).loaded();
+        addAll(first, C, A);
+        CHECK.due("set() of a first one that is not there", first.set(), FontMetrics.NONE);
         addAll(x, A, 91);
         CHECK.due("set() of one behind ec", x.set(), FontMetrics.NONE);
         CHECK.noIndex("item(0): the items before are gone", () -> x.item(0));
@@ -389,7 +394,7 @@ public final class SetTest {
         CHECK.due("set() with " + asked + " times of asking", x.set(), want == 0 ? items : want);
     }
 
-    private static void mostItems() {
+    private static void askingOften() {
         for (int asked = 1; asked <= 1000; asked += 27) {
             tooManyAt(asked, 0);
         }
@@ -397,6 +402,9 @@ public final class SetTest {
         tooManyAt(1000, 0);
         tooManyAt(1001, FontMetrics.TOO_MANY);
         tooManyAt(1002, FontMetrics.TOO_MANY);
+    }
+
+    private static void growingMuch() {
         FontFile file = FontFile.plain(0, 255);
         for (int c = 0; c < 15; c++) {
             file.tagged(c, 1, c).step(128, 255, 4 + 3, c + 1);
@@ -413,6 +421,34 @@ public final class SetTest {
         CHECK.due("item(543)", x.item(543), 255);
         CHECK.noIndex("item(544)", () -> x.item(544));
         CHECK.due("total()", x.total(), 544L * 327680);
+    }
+
+    /**
+     * A full row with both edges that asks just 1000 times, each of which brings an item: c and 255
+     * bring c + 1 .. 40 and a kern, 255 and what is behind it a kern, and the edge before a kern.
+     */
+    private static void mostItems() {
+        FontFile file = FontFile.plain(0, 255).tagged(40, 1, 41).tagged(255, 1, 42).step(255, 255, 0, 0);
+        file.kerns.add(0x00010000);
+        for (int c = 0; c < 40; c++) {
+            file.tagged(c, 1, c + 1).step(128, 255, 4 + 3, c + 1);
+        }
+        file.step(128, 255, KERN, 0);
+        file.step(0, 4, KERN, 0).step(0, 255, KERN, 0).step(128, 11, KERN, 0).step(255, 0, 0, 42);
+        FontMetrics x = file.loaded();
+        for (int i = 0; i < 31; i++) {
+            addAll(x, 11, 255);
+        }
+        addAll(x, 4, 255);
+        CHECK.due("set() to the most items", x.set(), 1064);
+        CHECK.due("item(0)", x.item(0), 40960);
+        CHECK.due("isKern(1063)", x.isKern(1063), true);
+        CHECK.due("item(1062)", x.item(1062), 255);
+        CHECK.due("isKern(1061)", x.isKern(1061), true);
+        CHECK.due("item(1060)", x.item(1060), 40);
+        CHECK.noIndex("item(1064)", () -> x.item(1064));
+        int kerns = 1 + 31 + 32 + 1;
+        CHECK.due("total() of the most items", x.total(), (1064L - kerns) * 327680 + kerns * 40960L);
     }
 
     private static void itemsAndTotal() {
