@@ -6,12 +6,28 @@ final class Check {
 
     private int done = 0;
     private int wrong = 0;
+    private int sentences = 0;
+    private String beside = "";
+
+    /** The answers from here on are held to this sentence, which is told beside a wrong one. */
+    void sentence(String where, String words) {
+        sentences++;
+        beside = where + ", \"" + words + "\": ";
+    }
 
     void due(String call, long got, long want) {
         done++;
         if (got != want) {
             wrong++;
-            System.out.println(call + " answered " + got + ", due is " + want);
+            System.out.println(beside + call + " answered " + got + ", due is " + want);
+        }
+    }
+
+    void same(String call, String got, String want) {
+        done++;
+        if (!got.equals(want)) {
+            wrong++;
+            System.out.println(beside + call + " left\n  " + got + ", due is\n  " + want);
         }
     }
 
@@ -42,12 +58,13 @@ final class Check {
         }
         if (got != want) {
             wrong++;
-            System.out.println(call + " threw " + got + ", due is " + want);
+            System.out.println(beside + call + " threw " + got + ", due is " + want);
         }
     }
 
     void end(String test) {
-        System.out.println(test + ": " + done + " answers, " + wrong + " of them not as due");
+        String held = sentences == 0 ? "" : sentences + " sentences, ";
+        System.out.println(test + ": " + held + done + " answers, " + wrong + " of them not as due");
         if (wrong != 0 || done == 0) {
             System.exit(1);
         }

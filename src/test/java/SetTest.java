@@ -10,9 +10,6 @@ public final class SetTest {
     private static final int KERN = 128;
     private static final int EDGE = 256;
 
-    /** In what is due of a row, a kern is written as this less its width. */
-    private static final int KERN_MARK = -1000000;
-
     public static void main(String[] args) {
         askFinds();
         askStarts();
@@ -34,10 +31,7 @@ public final class SetTest {
     }
 
     private static FontFile letters() {
-        FontFile file = FontFile.plain(A, 90);
-        file.kerns.add(0x00010000);
-        file.kerns.add(0xFFFF0000);
-        return file;
+        return Rows.letters();
     }
 
     private static void asked(String what, FontFile file, int x, int r, int want) {
@@ -151,9 +145,7 @@ public final class SetTest {
     }
 
     private static void addAll(FontMetrics x, int... row) {
-        for (int c : row) {
-            x.add(c);
-        }
+        Rows.add(x, row);
     }
 
     private static void setRefuses() {
@@ -185,40 +177,11 @@ public final class SetTest {
 
     /** Sets a row at ten points, where the kerns are 40960 and -40960. */
     private static void set(String what, FontFile file, int[] row, int... want) {
-        FontMetrics x = file.loaded();
-        addAll(x, row);
-        CHECK.due("set(): " + what, x.set(), want.length);
-        long total = 0;
-        for (int i = 0; i < want.length; i++) {
-            int at = i;
-            boolean kern = want[i] < 0;
-            int due = kern ? KERN_MARK - want[i] : want[i];
-            try {
-                CHECK.due("isKern(" + i + "): " + what, x.isKern(i), kern);
-                CHECK.due("item(" + i + "): " + what, x.item(i), due);
-            } catch (IndexOutOfBoundsException e) {
-                CHECK.due("item(" + at + ") is there: " + what, false, true);
-            }
-            total += kern ? due : 327680;
-        }
-        CHECK.noIndex("item behind the last: " + what, () -> x.item(want.length));
-        CHECK.noIndex("isKern behind the last: " + what, () -> x.isKern(want.length));
-        CHECK.due("total(): " + what, x.total(), total);
-        CHECK.due("set() again: " + what, emptyRow(x), 0);
-    }
-
-    /** The row is empty then, and add takes 64 again. */
-    private static int emptyRow(FontMetrics x) {
-        for (int i = 0; i < 64; i++) {
-            if (!x.add(A)) {
-                return 64 - i;
-            }
-        }
-        return 0;
+        Rows.set(CHECK, what, file, row, want);
     }
 
     private static int kern(int width) {
-        return KERN_MARK - width;
+        return Rows.kern(width);
     }
 
     private static int[] row(int... row) {
